@@ -1637,6 +1637,8 @@ public final class KinMeet {
         final int[] day = new int[MOST];
         final int[][] regrets = new int[MOST][KIN_MOST];
         final int[][] miles = new int[LANDS][LANDS];
+        /** For each OPTION those it beats, as bits. */
+        final int[] beaten = new int[MOST];
 
         Options(Book newBook) {
             book = newBook;
@@ -1704,7 +1706,10 @@ public final class KinMeet {
         int leastRing() {
             int all = (1 << size) - 1;
             int ring = all;
-            for (int set = 1; set <= all; set++) {
+            for (int i = 0; i < size; i++) {
+                beaten[i] = beatenBy(i);
+            }
+            for (int set = 1; set < all; set++) {
                 if (Integer.bitCount(set) < Integer.bitCount(ring) && beatsRest(set, all)) {
                     ring = set;
                 }
@@ -1714,7 +1719,7 @@ public final class KinMeet {
 
         private boolean beatsRest(int set, int all) {
             for (int i = 0; i < size; i++) {
-                if ((set >> i & 1) != 0 && ((set | beatenBy(i)) & all) != all) {
+                if ((set >> i & 1) != 0 && (set | beaten[i]) != all) {
                     return false;
                 }
             }
