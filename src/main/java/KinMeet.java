@@ -1886,7 +1886,7 @@ public final class KinMeet {
                         + price[SNORE_PRICE] * Integer.bitCount(unlike)
                         - price[COUPLE_PRICE] * Integer.bitCount(partners[one] & rest);
             }
-            noteMovers(guests, roomOf);
+            noteMovers(roomOf);
             int cost = arrange(guests, rooms, beds);
             return cost > PAID_MOST ? NONE : cost + price[COUPLE_PRICE] * couples;
         }
@@ -1908,11 +1908,11 @@ public final class KinMeet {
             return couples;
         }
 
-        private void noteMovers(int guests, int[] roomOf) {
+        private void noteMovers(int[] roomOf) {
             for (int room = 0; room < rooms; room++) {
                 movers[room] = 0;
                 for (int i = 0; i < KIN_MOST; i++) {
-                    if ((guests >> i & 1) != 0 && roomOf[i] != NONE && roomOf[i] != room) {
+                    if (roomOf[i] != NONE && roomOf[i] != room) {
                         movers[room] |= 1 << i;
                     }
                 }

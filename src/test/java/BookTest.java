@@ -171,6 +171,17 @@ public final class BookTest {
         D.due("just these", y.near(6, 4, 5, 2), 1);
         D.due("the other way", y.near(6, 5, 4, 0), 1);
         D.due("its d", y.near(6, 5, 4, 1), 2);
+        // one more in common that is farther on one side doesn't count
+        KinMeet z = withKin(5);
+        z.note(0, 3, 1, 0);
+        z.note(0, 3, 0, 0);
+        z.note(0, 4, 1, 0);
+        z.note(0, 4, 2, 0);
+        z.note(0, 2, 0, 0);
+        D.due("1 and 1 by 1", z.near(5, 3, 4, 2), 1);
+        D.due("2 is none of them", z.near(5, 3, 4, 1), 1);
+        D.due("the other way", z.near(5, 4, 3, 2), 1);
+        D.due("together", z.near(5, 4, 3, 5), 2);
         threeParents();
     }
 

@@ -183,6 +183,39 @@ public final class ChoiceTest {
         y.flight(4, 3, 1, 9, 1);
         y.flight(3, 5, 1, 9, 1);
         D.due("prices", y.travel(0, 1), 9);
+        seatsGivenBack();
+        KinMeet z = at(0, 0, 0, 0, 0, 0, 0, 0, 0, 0);
+        option(z, 1, 30, 0, 0, 0, 0, 0, 0, 0, 0, 0, 0);
+        z.flight(0, 1, 1, 9, 1);
+        z.flight(0, 1, 1, 9, 2);
+        D.due("ten go", z.travel(0, 0), 10);
+        D.due("nine for 1, one for 2", z.travel(0, 1), 11);
+    }
+
+    private static void flights(KinMeet x, int[]... flights) {
+        for (int[] f : flights) {
+            x.flight(f[0], f[1], 1, f[2], f[3]);
+        }
+    }
+
+    private static void seatsGivenBack() {
+        KinMeet x = at(3, 0, 2);
+        option(x, 5, 30, 0, 0, 0);
+        flights(x, new int[] {0, 1, 2, 4}, new int[] {0, 5, 2, 8}, new int[] {2, 1, 2, 5}, new int[] {0, 2, 1, 0}, new int[] {1, 5, 1, 3},
+                new int[] {1, 0, 1, 1});
+        D.due("3 stays", x.travel(0, 0), 2);
+        D.due("0 at once, 2 by 1", x.travel(0, 1), 16);
+        KinMeet y = at(2, 3, 1);
+        option(y, 5, 30, 0, 0, 0);
+        flights(y, new int[] {2, 5, 2, 9}, new int[] {1, 3, 2, 1}, new int[] {2, 3, 1, 0}, new int[] {3, 5, 2, 4});
+        D.due("all", y.travel(0, 0), 3);
+        D.due("2 at once, the others by 3", y.travel(0, 1), 18);
+        KinMeet z = at(4, 3);
+        option(z, 5, 30, 0, 0);
+        flights(z, new int[] {3, 0, 1, 5}, new int[] {0, 5, 1, 7}, new int[] {4, 2, 1, 2}, new int[] {1, 0, 2, 0}, new int[] {3, 5, 2, 8},
+                new int[] {3, 1, 1, 0}, new int[] {4, 0, 1, 1});
+        D.due("both", z.travel(0, 0), 2);
+        D.due("4 by 0, 3 at once", z.travel(0, 1), 16);
     }
 
     private static void score() {
@@ -242,6 +275,9 @@ public final class ChoiceTest {
         option(x, 0, 2, 4, 4);
         option(x, 0, 3, 8, 0);
         D.due("the least, of several the first", x.choice(), 1);
+        Due.rules(x, "score day/3;");
+        D.due("0 and 1 are like", x.choice(), 0);
+        x.rules(0);
         Due.rules(x, "bar day=2;");
         D.due("1 is out", x.choice(), 2);
         Due.rules(x, "score -day;");

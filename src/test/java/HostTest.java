@@ -84,6 +84,12 @@ public final class HostTest {
         D.due("then 1", x.host(), 1);
         Due.rules(x, "host last;");
         D.due("last is the YEAR, -1 without", x.host(), 0);
+        Due.rules(x, "host -last;");
+        D.due("-1 without", x.host(), 1);
+        Due.rules(x, "host (sum(mine)=1)*(people=1)*max(branch);");
+        D.due("mine is 1 or 0", x.host(), 0);
+        Due.rules(x, "host (sum(mine)=2)*9;");
+        D.due("mine is 1 or 0", x.host(), 1);
         x.note(3, 3, 0, 0);
         x.years(7);
         Due.rules(x, "host max(age if mine);");

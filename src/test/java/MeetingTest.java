@@ -17,6 +17,7 @@ public final class MeetingTest {
         mealNewOnes();
         mealDietsAndFeuds();
         mealLimits();
+        asTold();
         D.end();
     }
 
@@ -105,7 +106,7 @@ public final class MeetingTest {
         x.note(4, 1, 0, 0);
         D.due("may leave", x.guest(1, false), true);
         D.due("but not come back", x.guest(1, true), false);
-        x.receipt(0, 5);
+        x.receipt(0, 1);
         D.due("has a RECEIPT", x.guest(0, false), false);
         x.end();
         D.due("no MEETING", x.guest(0, true), false);
@@ -359,6 +360,33 @@ public final class MeetingTest {
         seated(y, 0, 0, 1, 1, 1);
         D.due("now with 0", y.meal(), 2);
         seated(y, 1, 0, 0, 0, 1);
+    }
+
+    /** Snores and diets as kin() told them. */
+    private static void asTold() {
+        D.part("promises 26 and 29, as told by kin()");
+        KinMeet x = new KinMeet();
+        x.kin(0, 0, 0, 0, true);
+        x.kin(0, 0, 0, 3, false);
+        x.kin(0, 0, 0, 2, true);
+        x.option(0, 1);
+        for (int k = 0; k < 3; k++) {
+            x.regret(k, 0, 0);
+        }
+        x.meet(0);
+        x.room(2);
+        x.room(2);
+        D.due("bed", x.bed(), 0);
+        bedded(x, 1, 0, 1);
+        x.table(3);
+        D.due("three diets", x.meal(), -1);
+        x.change(2, 3, 3);
+        D.due("two", x.meal(), 3);
+        x.change(0, 3, 1);
+        x.price(3, 1);
+        x.table(2);
+        D.due("one each", x.meal(), 0);
+        seated(x, 1, 0, 1, 1);
     }
 
     private static void mealLimits() {

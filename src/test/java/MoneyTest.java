@@ -136,6 +136,15 @@ public final class MoneyTest {
         owes(x, 0, 0, 0, 0, 0);
         owes(x, 1, 3, 3, 2, 2);
         owes(x, 2, 7, -3, -2, -2);
+        KinMeet one = meeting(0);
+        pay(one, 5);
+        owes(one, 1, 5);
+        // one who isn't a guest gets no coin
+        KinMeet some = meeting(0, 0, 0);
+        some.guest(0, false);
+        pay(some, 0, 0, 7);
+        owes(some, 1, Long.MIN_VALUE, 4, 3);
+        payments(some, new int[] {1, 2, 4});
         // the coins that are left go to those with a weight
         KinMeet y = meeting(1, 0, 1, 1);
         pay(y, 0, 0, 0, 11);
@@ -166,6 +175,8 @@ public final class MoneyTest {
         D.due("nothing is paid by it", x.owes(0, 2), 5);
         D.due("nor counted", x.count(8), 40);
         x.receipt(4, 5);
+        D.due("as things are, without settle()", x.payment(0, 2), 4);
+        D.due("as things are, without settle()", x.payment(1, 0), 2);
         // balances 4, -4, -3, 3, 0 of 45: 9 each
         owes(x, 2, 4, -4, -3, 3, 0);
         payments(x, new int[] {1, 0, 4}, new int[] {2, 3, 3});

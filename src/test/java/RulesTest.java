@@ -59,6 +59,38 @@ public final class RulesTest {
         Due.put(x, "score 1;junk");
         D.due("a part of the tape", x.rules(8), 1);
         D.due("no FAULT", x.fault(0), 0);
+        cutTexts();
+        afterFaults();
+    }
+
+    /** What stands behind the text on the tape isn't looked at. */
+    private static void cutTexts() {
+        int[][] due = {{8, 1, 8}, {10, 1, 10}, {12, 1, 12}};
+        for (int[] d : due) {
+            KinMeet x = new KinMeet();
+            Due.put(x, "score 1<=222+land;");
+            D.due("rules(" + d[0] + ")", x.rules(d[0]), -1);
+            D.due("fault", x.fault(0), d[1]);
+            D.due("place", x.fault(1), d[2]);
+        }
+        KinMeet x = new KinMeet();
+        Due.put(x, "score land;");
+        D.due("a cut word", x.rules(9), -1);
+        D.due("its place", x.fault(1), 6);
+    }
+
+    /** A text that breaks off leaves nothing behind for the next one. */
+    private static void afterFaults() {
+        KinMeet x = new KinMeet();
+        x.option(0, 1);
+        for (String broken : new String[] {"score 1+(2*sum(3", "score ((((((((", "score sum(1 if not", "bar 1;bar 2;bar 3;bar 4;score", "score 1+-", "pay 1;host 2;score 3;x"}) {
+            D.due(broken, Due.rules(x, broken), -1);
+            D.due("the next one", Due.rules(x, "bar 0;score ((((((((7))))))));"), 2);
+            D.due("its value", x.score(0), 7);
+            D.due("its knots", x.count(9), 2);
+            D.due("a name", Due.rules(x, "score regret;"), -1);
+            D.due("fault", x.fault(0), 4);
+        }
     }
 
     private static void fault(String text, int fault, int place) {
@@ -93,6 +125,9 @@ public final class RulesTest {
         fault("score lands;", 1, 6);
         fault("score land1;", 1, 10);
         fault("score landday;", 1, 6);
+        fault("score landz;", 1, 6);
+        fault("score zland;", 1, 6);
+        fault("score aland;", 1, 6);
         fault("scored 1;", 1, 0);
         fault("score notday;", 1, 6);
         fault("score 1 2;", 1, 8);
@@ -384,6 +419,10 @@ public final class RulesTest {
         value("min(1 if 0)", 0);
         value("max(-5 if 1)", -5);
         value("10*sum(1)+sum(means if home=1)*2", 40);
+        value("max(-means)+max(-means)*10+min(means)*100", 890);
+        value("max(5)+sum(means or 1)+max(-3)", 4);
+        value("sum(means if can or home=2)", 30);
+        value("sum(means if can and home=2)", 0);
         value("sum(day*home)", 21);
         value("sum(100/(means-10) if means<>10)", 10);
         error("sum(100/(means-10))");
