@@ -173,15 +173,17 @@ public final class BookTest {
         D.due("its d", y.near(6, 5, 4, 1), 2);
         // one more in common that is farther on one side doesn't count
         KinMeet z = withKin(5);
-        z.note(0, 3, 1, 0);
         z.note(0, 3, 0, 0);
-        z.note(0, 4, 1, 0);
+        z.note(0, 3, 1, 0);
+        z.note(0, 4, 0, 0);
         z.note(0, 4, 2, 0);
-        z.note(0, 2, 0, 0);
-        D.due("1 and 1 by 1", z.near(5, 3, 4, 2), 1);
-        D.due("2 is none of them", z.near(5, 3, 4, 1), 1);
+        z.note(0, 2, 1, 0);
+        D.due("0 alone, by 1 and 1", z.near(5, 3, 4, 2), 1);
+        D.due("its d", z.near(5, 3, 4, 1), 1);
         D.due("the other way", z.near(5, 4, 3, 2), 1);
-        D.due("together", z.near(5, 4, 3, 5), 2);
+        z.note(0, 2, 0, 1);
+        D.due("two worlds", z.near(6, 4, 3, 3), 2);
+        D.due("together in any", z.near(6, 4, 3, 5), 2);
         threeParents();
     }
 

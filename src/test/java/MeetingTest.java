@@ -402,5 +402,15 @@ public final class MeetingTest {
         D.due("no ninth", x.seated(8, 1), -1);
         x.end();
         D.due("none", x.count(6), 0);
+        // who moves to another ROOM doesn't matter at TABLES
+        KinMeet y = meeting(3);
+        y.room(2);
+        y.room(2);
+        y.bed();
+        D.due("nobody moves", y.bed(), 0);
+        y.table(3);
+        y.table(3);
+        D.due("three twos", y.meal(), 3);
+        seated(y, 0, 1, 1, 1);
     }
 }
