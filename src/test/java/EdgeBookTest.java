@@ -9,6 +9,7 @@ public final class EdgeBookTest {
         aNewObject();
         kinAtMostTen();
         kinNumbersThatCannotBe();
+        snoresOrNotAndDiet();
         refusedKinChangesNothing();
         changeBounds();
         changeOfNoSuchKin();
@@ -26,6 +27,7 @@ public final class EdgeBookTest {
         refusedNoteChangesNothing();
         strikeBounds();
         knownByTheFirstNotes();
+        knownByFewerBehindMore();
         struckByOneOfThese();
         strikeOfStrikes();
         sureParentsTheFirstTwo();
@@ -53,6 +55,7 @@ public final class EdgeBookTest {
         coupleEitherWay();
         coupleGreatestYear();
         coupleOfLikeYearsTheLatest();
+        coupleByNotesOfItsSorts();
         coupleNone();
         toldRefused();
         toldNotLookedAt();
@@ -216,6 +219,30 @@ public final class EdgeBookTest {
         x.option(0, 1);
         Due.rules(x, "score sum(home)*1000+max(branch)*100+max(means);");
         D.due("as told", x.score(0), 5399);
+    }
+
+    private static void snoresOrNotAndDiet() {
+        D.part("Promise 5: a DIET 0 .. 3, and snores or not");
+        for (int d = 0; d < 4; d++) {
+            for (int e = 0; e < 4; e++) {
+                KinMeet x = new KinMeet();
+                x.kin(0, 0, 0, d, d % 2 == 0);
+                x.kin(0, 0, 0, e, e % 2 == 0);
+                x.option(0, 1);
+                x.regret(0, 0, 0);
+                x.regret(1, 0, 0);
+                x.meet(0);
+                x.room(2);
+                x.table(2);
+                x.price(3, 1);
+                D.due("one who snores and one who doesn't", x.bed(), d % 2 == e % 2 ? 0 : 3);
+                D.due("one DIET", x.meal(), d == e ? 1 : -1);
+                D.due("told anew", x.change(0, SNORES, 1 - e % 2), true);
+                D.due("both snore, or neither does", x.bed(), 0);
+                D.due("told anew", x.change(0, 3, e), true);
+                D.due("one DIET", x.meal(), d == e ? 0 : 1);
+            }
+        }
     }
 
     private static void refusedKinChangesNothing() {
@@ -514,6 +541,36 @@ public final class EdgeBookTest {
         D.due("of all then", x.branch(0, 2), 2);
     }
 
+    /** Each kind of note is the first one that isn't known, asked behind the whole book. */
+    private static void knownByFewerBehindMore() {
+        D.part("As KNOWN by n: the first n NOTES alone, whatever was asked before");
+        KinMeet x = withKin(4);
+        x.note(0, 3, 0, 0);
+        x.note(0, 3, 1, 1);
+        x.note(3, 3, 0, 5);
+        x.note(4, 3, 0, 9);
+        x.note(1, 3, 2, 6);
+        x.note(2, 3, 2, 7);
+        x.strike(0);
+        x.strike(6);
+        int[][] due = {{0, 1, 1, -1, 1, 0, 0}, {1, 1, 1, -1, 1, 0, 0}, {1, 2, 1, -1, 1, 0, 0}, {1, 2, 0, 4, 1, 0, 0}, {1, 2, 0, 4, 0, 0, 0},
+            {1, 2, 0, 4, 0, 1, 1}, {1, 2, 0, 4, 0, 1, 0}, {0, 2, 0, 4, 0, 1, 0}, {1, 2, 0, 4, 0, 1, 0}};
+        for (int more = 8; more >= 0; more--) {
+            for (int n = more; n >= 0; n--) {
+                x.near(more, 3, 0, 3);
+                D.due("SURE parents known by " + n, x.told(n, 0, 3, 0, 3), due[n][0]);
+                D.due("WORLDS known by " + n, x.near(n, 3, 1, 3), due[n][1]);
+                if (more == 8) {
+                    D.due("alive in 4 known by " + n, x.told(n, 4, 3, 0, 0), due[n][2]);
+                    D.due("AGE in 9 known by " + n, x.told(n, 9, 3, 0, 1), due[n][3]);
+                    D.due("alive in 9 known by " + n, x.told(n, 9, 3, 0, 0), due[n][4]);
+                    D.due("COUPLE in 6 known by " + n, x.told(n, 6, 3, 2, 2), due[n][5]);
+                    D.due("COUPLE in 7 known by " + n, x.told(n, 7, 3, 2, 2), due[n][6]);
+                }
+            }
+        }
+    }
+
     private static void struckByOneOfThese() {
         D.part("without those STRUCK by one of these");
         KinMeet x = withKin(2);
@@ -733,6 +790,11 @@ public final class EdgeBookTest {
         parents(x, 0, of(6, 0), of(6, 3), of(3, 1), of(5, 1), of(5, 4), of(4, 2), of(2, 0));
         near(x, 6, 5, 2, 1, 1, 1, 1, 3);
         near(x, 5, 6, 1, 2, 1, 1, 1, 3);
+        // the same with the numbers the other way round: a lesser u alone doesn't count
+        KinMeet z = withKin(7);
+        parents(z, 0, of(6, 1), of(6, 3), of(3, 0), of(5, 0), of(5, 4), of(4, 2), of(2, 1));
+        near(z, 6, 5, 2, 1, 1, 1, 1, 3);
+        near(z, 5, 6, 1, 2, 1, 1, 1, 3);
         // one of the two above the other goes ahead of parents they have in common
         KinMeet y = withKin(3);
         parents(y, 0, of(2, 1), of(2, 0), of(1, 0));
@@ -762,6 +824,11 @@ public final class EdgeBookTest {
         KinMeet y = withKin(10);
         parents(y, 0, of(4, 0), of(4, 1), of(5, 2), of(5, 3), of(6, 0), of(6, 1), of(7, 2), of(7, 3), of(8, 4), of(8, 5), of(9, 6), of(9, 7));
         near(y, 8, 9, 2, 2, 4);
+        // those by the same u and a greater d, or by a greater u and the same d, aren't just these
+        KinMeet w = withKin(6);
+        parents(w, 0, of(5, 0), of(5, 1), of(4, 0), of(4, 3), of(3, 1));
+        near(w, 5, 4, 1, 1, 1);
+        near(w, 4, 5, 1, 1, 1);
         // those by the same sum, but with another u, aren't just these
         KinMeet z = withKin(7);
         parents(z, 0, of(6, 0), of(6, 3), of(3, 1), of(5, 1), of(5, 4), of(4, 0));
@@ -961,6 +1028,27 @@ public final class EdgeBookTest {
         D.due("one", couple(x, 0, 1, 20), true);
         x.strike(0);
         D.due("no notes of theirs", couple(x, 0, 1, 20), false);
+    }
+
+    private static void coupleByNotesOfItsSorts() {
+        D.part("a COUPLE: if of their notes of sorts 1, 2");
+        KinMeet x = withKin(3);
+        x.note(1, 1, 0, 0);
+        x.note(0, 1, 0, 0);
+        x.note(0, 1, 0, 1);
+        x.note(3, 1, 0, 5);
+        x.note(4, 0, 1, 6);
+        x.strike(1);
+        for (int y : new int[] {0, 1, 5, 6, 999}) {
+            D.due("one in " + y, couple(x, 0, 1, y), true);
+            D.due("one in " + y, couple(x, 1, 0, y), true);
+        }
+        KinMeet z = withKin(3);
+        z.note(2, 1, 0, 0);
+        z.note(0, 1, 0, 1);
+        z.note(3, 1, 0, 1);
+        z.strike(1);
+        D.due("none", couple(z, 1, 0, 9), false);
     }
 
     private static void coupleNone() {

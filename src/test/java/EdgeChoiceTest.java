@@ -30,6 +30,7 @@ public final class EdgeChoiceTest {
         bringNobody();
         bringTheMost();
         pricesLeast();
+        pricesOfNothing();
         pricesOfTheMost();
         seatsGivenBackAndTakenAnew();
         fareOfAll();
@@ -545,6 +546,26 @@ public final class EdgeChoiceTest {
         travel(y, 0, 1, 0, 2);
         y.flight(3, 1, 1, 1, 999);
         travel(y, 0, 2, 999, 2);
+    }
+
+    private static void pricesOfNothing() {
+        D.part("PRICES: FLIGHTS for 0, round and round");
+        KinMeet x = at(0, 1, 2, 3);
+        option(x, 5, 1, 0, 0, 0, 0);
+        int[][] round = {{0, 1}, {1, 2}, {2, 3}, {3, 0}, {1, 0}, {2, 1}, {3, 2}, {0, 3}};
+        for (int[] f : round) {
+            x.flight(f[0], f[1], 1, 9, 0);
+        }
+        travel(x, 0, 0, 0, 4);
+        x.flight(2, 5, 1, 3, 0);
+        travel(x, 0, 3, 0, 4);
+        x.flight(0, 4, 1, 1, 0);
+        x.flight(4, 0, 1, 1, 0);
+        travel(x, 0, 3, 0, 4);
+        x.flight(4, 5, 1, 1, 0);
+        travel(x, 0, 4, 0, 4);
+        x.flight(5, 2, 1, 9, 0);
+        travel(x, 0, 4, 0, 4);
     }
 
     private static void pricesOfTheMost() {

@@ -160,6 +160,14 @@ public final class EdgeHostTest {
         D.due("once, this YEAR", y.host(), 1);
         D.due("once, this YEAR", meetAndEnd(y), 1);
         D.due("twice, longer ago", y.host(), 0);
+        // the one that hosted less is the lesser number, and did so later
+        KinMeet z = ofBranches(1);
+        meetAndEnd(z);
+        meetAndEnd(z);
+        z.years(5);
+        z.kin(0, 0, 0, 0, false);
+        D.due("never", meetAndEnd(z), 0);
+        D.due("once, this YEAR", z.host(), 0);
     }
 
     private static void hostLongestAgo() {

@@ -33,6 +33,7 @@ public final class EdgeMeetingTest {
         movedByTheBeddingAtHand();
         movedOfThisMeeting();
         theOneAtHandStays();
+        bedsAndMealsEachForItself();
         bedThatCostsLeast();
         bedTheFirstOfSeveral();
         bedOfTenGuests();
@@ -711,6 +712,28 @@ public final class EdgeMeetingTest {
         x.price(2, 7);
         // who stays pays nothing, so that the one at hand is still asked
         bed(x, 0, 0, 0, 1);
+    }
+
+    private static void bedsAndMealsEachForItself() {
+        D.part("(the one at hand stays), whatever MEALS there were");
+        KinMeet x = inRooms(4, 2, 2);
+        x.table(4);
+        x.table(3);
+        bed(x, 0, 0, 0, 1, 1);
+        meal(x, 6, 0, 0, 0, 0);
+        bedded(x, 0, 0, 1, 1);
+        feuds(x, of(0, 1), of(0, 2), of(0, 3));
+        bed(x, -1, 0, 0, 1, 1);
+        meal(x, 0, 0, 1, 1, 1);
+        bed(x, -1, 0, 0, 1, 1);
+        x.room(1);
+        // 0 or 1 moves; 0 (1 as bits) stays
+        bed(x, 1, 0, 2, 1, 1);
+        feuds(x, of(1, 2));
+        meal(x, -1);
+        bedded(x, 0, 2, 1, 1);
+        D.due("the MEALS stay", x.seated(0, 3), 0);
+        D.due("the MEALS stay", x.seated(1, 3), 1);
     }
 
     private static void bedThatCostsLeast() {

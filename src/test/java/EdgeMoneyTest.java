@@ -14,6 +14,7 @@ public final class EdgeMoneyTest {
         weightOfAnErrorOrBelowZero();
         weightAtMost();
         weightOfTheOneWhoPays();
+        weightByTheOptionMetAt();
         shareWithoutReceipts();
         shareCut();
         coinsLeftByNumbers();
@@ -32,6 +33,7 @@ public final class EdgeMoneyTest {
         settleTheNextGroup();
         settleInAGroup();
         settleOfTen();
+        settleAnew();
         settlePaysNothing();
         paymentNone();
         paymentAsThingsAre();
@@ -226,6 +228,34 @@ public final class EdgeMoneyTest {
         owes(x, 0, 8, 7, 6);
         Due.rules(x, "pay means+max(means)*0+means;");
         owes(x, 0, 10, 12, 14);
+    }
+
+    private static void weightByTheOptionMetAt() {
+        D.part("In pay: those of an OPTION: of that met at");
+        for (int o = 0; o < 6; o++) {
+            KinMeet x = new KinMeet();
+            x.kin(5, 0, 1, 0, false);
+            x.kin(o, 0, 1, 0, false);
+            for (int i = 0; i < 6; i++) {
+                x.option(i, 10 + i);
+                x.regret(0, i, 20 + i);
+                x.regret(1, i, 30 + i);
+            }
+            x.miles(5, o, 7);
+            x.flight(5, o, 9, 1, 40 + o);
+            x.meet(o);
+            Due.rules(x, "pay land*100000+day*1000+fare*10+come;");
+            int fare = o == 5 ? 0 : 40 + o;
+            D.due("of OPTION " + o, x.owes(0, 0), o * 100000 + (10 + o) * 1000 + fare * 10 + 2);
+            D.due("of OPTION " + o, x.owes(1, 0), o * 100000 + (10 + o) * 1000 + fare * 10 + 2);
+            Due.rules(x, "pay regret*100+miles*10+can;");
+            D.due("0 of OPTION " + o, x.owes(0, 0), (20 + o) * 100 + (o == 5 ? 0 : 70) + 1);
+            D.due("1 of OPTION " + o, x.owes(1, 0), (30 + o) * 100 + 1);
+            // as things are: one who isn't ALIVE any more doesn't come
+            x.note(4, 0, 0, 0);
+            Due.rules(x, "pay fare*10+come;");
+            D.due("come and fare", x.owes(1, 0), 1);
+        }
     }
 
     private static void shareWithoutReceipts() {
@@ -513,6 +543,50 @@ public final class EdgeMoneyTest {
         nine[9] = -9;
         payments(balanced(nine), due);
         payments(balanced(2, 2, 2, 2, 2, -5, -5, 0, 0, 0), 5, 0, 2, 5, 1, 2, 5, 2, 1, 6, 2, 1, 6, 3, 2, 6, 4, 2);
+    }
+
+    /** Makes the balances these, by more receipts, with like shares. */
+    private static void balance(KinMeet x, int share, int... balances) {
+        int sum = 0;
+        long[] paid = new long[balances.length];
+        for (int k = 0; k < balances.length; k++) {
+            paid[k] = x.owes(k, 1) + x.owes(k, 2);
+            sum += balances[k];
+        }
+        D.due("BALANCES together", sum, 0);
+        for (int k = 0; k < balances.length; k++) {
+            if (share + balances[k] > paid[k]) {
+                x.receipt(k, (int) (share + balances[k] - paid[k]));
+            }
+        }
+        for (int k = 0; k < balances.length; k++) {
+            D.due("BALANCE of " + k, x.owes(k, 2), balances[k]);
+        }
+    }
+
+    private static void settleAnew() {
+        D.part("To SETTLE: as things are, whatever GROUPS there were");
+        KinMeet x = meeting(0, 0, 0, 0, 0, 0);
+        balance(x, 10, 1, -1, 2, -2, 3, -3);
+        payments(x, 1, 0, 1, 3, 2, 2, 5, 4, 3);
+        balance(x, 20, 5, -1, -1, -1, -1, -1);
+        payments(x, 1, 0, 1, 2, 0, 1, 3, 0, 1, 4, 0, 1, 5, 0, 1);
+        balance(x, 40, 4, 4, -4, -4, 0, 0);
+        payments(x, 2, 0, 4, 3, 1, 4);
+        balance(x, 60, 0, 0, 0, 0, 0, 0);
+        payments(x);
+        balance(x, 80, 7, -3, -4, 5, -2, -3);
+        payments(x, 1, 0, 3, 2, 0, 4, 4, 3, 2, 5, 3, 3);
+        balance(x, 100, 5, 1, -2, -2, -1, -1);
+        payments(x, 2, 0, 2, 3, 0, 2, 4, 0, 1, 5, 1, 1);
+        balance(x, 120, 1, 2, 3, -3, -2, -1);
+        payments(x, 5, 0, 1, 4, 1, 2, 3, 2, 3);
+        balance(x, 140, 3, 1, 2, -1, -2, -3);
+        payments(x, 5, 0, 3, 3, 1, 1, 4, 2, 2);
+        balance(x, 160, 3, 2, -5, 4, -3, -1);
+        payments(x, 2, 0, 3, 2, 1, 2, 4, 3, 3, 5, 3, 1);
+        balance(x, 180, 2, 3, -3, -2, 0, 0);
+        payments(x, 3, 0, 2, 2, 1, 3);
     }
 
     private static void settlePaysNothing() {

@@ -14,6 +14,7 @@ public final class EdgeRulesTest {
         rulesOfAPart();
         tapeIsEmptyThen();
         rulesWithAFault();
+        rulesBehindAFault();
         rulesFromNowOn();
         faultOfTheLatest();
         faultOfAnotherWhat();
@@ -202,6 +203,33 @@ public final class EdgeRulesTest {
         }
     }
 
+    private static void rulesBehindAFault() {
+        D.part("Promise 3: a text that breaks off leaves nothing behind for the next one");
+        for (String broken : new String[] {"score 1+(2*sum(3", "score ((((((((", "score ((((((((1 ?", "score sum(", "score sum(1 if", "score sum(1 if not",
+            "bar 1;bar 2;bar 3;bar 4;?", "score 1+-", "score - - - -", "score not not", "score 1 and 2 or", "score 1<2", "pay 1;host 2;score 3;?", "score max(1)+min(2",
+            "score " + times(59, "1+"), "bar " + times(110, "not "), "score " + times(100, "-"), "score sum(mine", "score sum(sum"}) {
+            KinMeet x = new KinMeet();
+            x.option(0, 1);
+            D.due(broken, Due.rules(x, broken), -1);
+            D.due("eight brackets", Due.rules(x, "bar 0;score ((((((((7))))))));"), 2);
+            D.due("VALUE", x.score(0), 7);
+            D.due("the bar's VALUE", x.judged(0, 0), 0);
+            D.due("KNOTS", x.count(9), 2);
+            D.due(broken, Due.rules(x, broken), -1);
+            D.due("an if without a HEAP", Due.rules(x, "score 1 if 2;"), -1);
+            D.due("place", x.fault(1), 8);
+            D.due(broken, Due.rules(x, broken), -1);
+            D.due("a NAME without a HEAP", Due.rules(x, "score regret;"), -1);
+            D.due("FAULT", x.fault(0), 4);
+            D.due(broken, Due.rules(x, broken), -1);
+            D.due("a bracket that isn't open", Due.rules(x, "score 1);"), -1);
+            D.due("place", x.fault(1), 7);
+            D.due(broken, Due.rules(x, broken), -1);
+            D.due("a whole text", Due.rules(x, "bar 1;bar 1;bar 1;score 1+" + knots(110) + ";pay 1;host 1;bar 1;"), 7);
+            D.due("KNOTS", x.count(9), 118);
+        }
+    }
+
     private static void rulesFromNowOn() {
         D.part("Promise 3: are the RULES from now on: how many LINES");
         KinMeet x = new KinMeet();
@@ -325,8 +353,11 @@ public final class EdgeRulesTest {
     private static void wordsInARow() {
         D.part("Words and NAMES are small letters in a row; another word, too");
         for (String word : WORDS) {
-            fault("score " + word + "x;", 1, 6);
-            fault("score x" + word + ";", 1, 6);
+            for (String letter : new String[] {"a", "k", "x", "z"}) {
+                fault("score " + word + letter + ";", 1, 6);
+                fault("score " + letter + word + ";", 1, 6);
+                fault("score " + word + letter, 1, 6);
+            }
             fault("score " + word + word + ";", 1, 6);
             fault("score " + word.toUpperCase() + ";", 1, 6);
             if (!word.equals("mine")) {
@@ -675,6 +706,9 @@ public final class EdgeRulesTest {
     private static void fifthBar() {
         D.part("FAULT 2 (at it): a fifth bar");
         good("bar 1;bar 2;bar 3;bar 4;");
+        good("bar 1;bar 2;bar 3;bar 4;score 1;pay 1;host 1;");
+        fault("bar 1;bar 2;bar 3;bar 4;score 1;pay 1;host 1;bar 5;", 2, 45);
+        fault("bar 1;bar 2;bar 3;bar 4;score 1;pay 1;host 1;pay 2;", 3, 45);
         fault("bar 1;bar 2;bar 3;bar 4;bar 5;", 2, 24);
         fault("bar 1;bar 2;bar 3;bar 4;bar", 2, 24);
         fault("bar 1;score 9;bar 2;pay 1;bar 3;host 1;bar 4;  bar", 2, 47);

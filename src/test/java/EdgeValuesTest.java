@@ -26,6 +26,7 @@ public final class EdgeValuesTest {
         heapsOfOne();
         heapsWithIf();
         heapsOfAliveOnes();
+        ageWithoutANote();
         sumAsItGoes();
         heapsAtTheMost();
         errorWithinAHeap();
@@ -366,6 +367,37 @@ public final class EdgeValuesTest {
         x.note(4, 1, 0, 0);
         x.note(4, 2, 0, 0);
         value(x, "sum(means)", 9);
+    }
+
+    private static void ageWithoutANote() {
+        D.part("age: AGE in THE YEAR; -1 without a note");
+        KinMeet x = withMeans(1, 2, 3);
+        x.years(20);
+        value(x, "sum(age)", -3);
+        x.note(3, 0, 0, 20);
+        value(x, "max(age)", 0);
+        value(x, "sum(age)", -2);
+        x.note(3, 1, 0, 0);
+        value(x, "max(age)", 20);
+        x.note(3, 2, 0, 21);
+        value(x, "sum(age)", 20);
+        value(x, "count(age<0)", 0);
+        x.years(1);
+        value(x, "sum(age)", 22);
+        value(x, "sum(means if age=0)", 3);
+        value(x, "sum(means if age=1)", 1);
+        Due.rules(x, "host max(age)*10+min(age);");
+        D.due("HOST", x.host(), 0);
+        for (int k = 0; k < 3; k++) {
+            x.regret(k, 0, 0);
+        }
+        x.meet(0);
+        Due.rules(x, "pay age+1;");
+        D.due("pay of 0", x.owes(0, 0), 2);
+        D.due("pay of 1", x.owes(1, 0), 22);
+        D.due("pay of 2", x.owes(2, 0), 1);
+        x.note(3, 2, 0, 500);
+        D.due("one who isn't born yet", x.owes(2, 0), 0);
     }
 
     private static void sumAsItGoes() {
